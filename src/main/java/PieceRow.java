@@ -37,7 +37,6 @@ public final class PieceRow {
     private final Bytes piece;
     private final Bytes image;
     private final Packer packer;
-    private int rowLength;
     private int pieces;
     private boolean plain;
     private boolean closed;
@@ -59,7 +58,6 @@ public final class PieceRow {
     public void begin(boolean plain) {
         this.plain = plain;
         closed = false;
-        rowLength = 0;
         pieces = 0;
         piece.keep(0);
         image.keep(0);
@@ -69,28 +67,34 @@ public final class PieceRow {
         if (n < 1 || n > 8 || closed) {
             return BAD;
         }
-        if (n > ROW_LIMIT - rowLength) {
+        if (n > ROW_LIMIT - openLength()) {
             return FULL;
         }
         for (int i = 0; i < n; i++) {
-            append((int) (bytes >>> (8 * i)));
+            piece.add((int) (bytes >>> (8 * i)));
+            if (piece.length() == PIECE_LIMIT) {
+                closePiece();
+            }
         }
-        return rowLength;
+        return openLength();
     }
 
     public int fill(int kind, int b, int n) {
         if (kind < 0 || kind > 2 || n < 1 || n > ROW_LIMIT || closed) {
             return BAD;
         }
-        if (n > ROW_LIMIT - rowLength) {
+        if (n > ROW_LIMIT - openLength()) {
             return FULL;
         }
         int x = b;
         for (int i = 0; i < n; i++) {
             x = 1103515245 * x + 12345;
-            append(kind == 0 ? b : kind == 1 ? x >> 16 : 97 + ((x >> 16) & 3));
+            piece.add(kind == 0 ? b : kind == 1 ? x >> 16 : 97 + (x >> 16 & 3));
+            if (piece.length() == PIECE_LIMIT) {
+                closePiece();
+            }
         }
-        return rowLength;
+        return openLength();
     }
 
     public long reference() {
@@ -188,12 +192,9 @@ public final class PieceRow {
         return i >= 0 && i < knownPieces && i < PIECES_LIMIT ? knownStarts[i] : NONE;
     }
 
-    private void append(int b) {
-        piece.add(b);
-        rowLength++;
-        if (piece.length() == PIECE_LIMIT) {
-            closePiece();
-        }
+    /** How many bytes a row has that is not closed: till then all its closed pieces are full. */
+    private int openLength() {
+        return PIECE_LIMIT * pieces + piece.length();
     }
 
     private void closePiece() {
@@ -248,7 +249,11 @@ public final class PieceRow {
         }
         for (int i = 0; i < count; i++) {
             int before = known.length();
-            if (!readPiece(knownStarts[i])) {
+            int from = knownStarts[i] + 2;
+            int head = headAt(knownStarts[i]);
+            if (head >= AS_IT_IS) {
+                known.addAll(image, from, bytesTold(head));
+            } else if (!unpacker.unpack(from, bytesTold(head))) {
                 return false;
             }
             int made = known.length() - before;
@@ -256,15 +261,6 @@ public final class PieceRow {
                 return false;
             }
         }
-        return true;
-    }
-
-    private boolean readPiece(int at) {
-        int head = headAt(at);
-        if (head < AS_IT_IS) {
-            return unpacker.unpack(at + 2, bytesTold(head));
-        }
-        known.addAll(image, at + 2, bytesTold(head));
         return true;
     }
 
@@ -432,7 +428,7 @@ public final class PieceRow {
         }
     }
 
-    /** The matches in a row: the places with the same hash of three bytes stand in one chain. */
+    /** The matches in a row: places with the same hash of three bytes stand in one chain. */
     private static final class Matches {
         private static final int CANDIDATES = 16;
         private static final int HASH_BITS = 12;
@@ -441,7 +437,6 @@ public final class PieceRow {
         // both tell a place plus one, so that 0 is none
         private final int[] latest;
         private final int[] before;
-        private int chained;
 
         Matches(Bytes row) {
             this.row = row;
@@ -449,23 +444,32 @@ public final class PieceRow {
             before = new int[PIECE_LIMIT];
         }
 
-        void forget() {
+        /** Chains all places of the row; a search begins at its own place, so later ones do no harm. */
+        void chain() {
             Arrays.fill(latest, 0);
-            chained = 0;
+            for (int p = 0; p < row.length() && p < before.length; p++) {
+                int three = row.at(p) | row.at(p + 1) << 8 | row.at(p + 2) << 16;
+                int hash = three * -1640531535 >>> (32 - HASH_BITS);
+                before[p] = latest[hash];
+                latest[hash] = p + 1;
+            }
         }
 
-        /** The best match at p as 65536 * length + distance, or 0; a piece is too short for a distance above 32768. */
+        /**
+         * The best match at p, in a part up to an end, as 65536 * length + distance, or 0. A piece is
+         * too short for a distance above 32768.
+         */
         int best(int p, int end) {
             int most = Math.min(LONGEST_MATCH, end - p);
             if (most < SHORTEST_MATCH || p < 0 || p >= before.length) {
                 return 0;
             }
-            chainUpTo(p);
             int length = 0;
             int distance = 0;
             int found = 0;
-            int q = latest[hash(p)] - 1;
-            for (int steps = 0; steps < PIECE_LIMIT && q >= 0 && q < p; steps++) {
+            int q = before[p] - 1;
+            // behind the first one that is as long as can be none is better
+            while (q >= 0 && q < p && found < CANDIDATES && length < most) {
                 int same = sameBytes(q, p, most);
                 if (same >= SHORTEST_MATCH) {
                     found++;
@@ -474,26 +478,9 @@ public final class PieceRow {
                         distance = p - q;
                     }
                 }
-                if (found == CANDIDATES || length == most) {
-                    break;
-                }
-                q = before[q] - 1;
+                q = Math.min(before[q], q) - 1;
             }
             return length << 16 | distance;
-        }
-
-        private void chainUpTo(int p) {
-            while (chained < p && chained < before.length) {
-                int hash = hash(chained);
-                before[chained] = latest[hash];
-                chained++;
-                latest[hash] = chained;
-            }
-        }
-
-        private int hash(int p) {
-            int three = row.at(p) | row.at(p + 1) << 8 | row.at(p + 2) << 16;
-            return (three * -1640531535) >>> (32 - HASH_BITS);
         }
 
         private int sameBytes(int q, int p, int most) {
@@ -747,21 +734,21 @@ public final class PieceRow {
         private void tellStretch(int length, int stretch) {
             int left = stretch;
             if (length > 0) {
-                tell(length, 1);
+                tell(length, 0);
                 left--;
             }
             while (left > 0) {
                 int symbol = left < 3 ? length : length > 0 ? 16 : left < 11 ? 17 : 18;
                 int most = symbol < 16 ? 1 : symbol == 16 ? 6 : symbol == 17 ? 10 : 138;
                 int times = Math.min(left, most);
-                tell(symbol, times);
+                tell(symbol, times - repeatBase(symbol));
                 left -= times;
             }
         }
 
-        private void tell(int symbol, int times) {
+        private void tell(int symbol, int extra) {
             if (toldCount < told.length && symbol >= 0 && symbol < counts.length) {
-                told[toldCount] = symbol + EXTRA_UNIT * (times - repeatBase(symbol));
+                told[toldCount] = symbol + EXTRA_UNIT * extra;
                 toldCount++;
                 counts[symbol]++;
             }
@@ -824,7 +811,7 @@ public final class PieceRow {
         /** Packs the row and answers how many bytes that makes. */
         int pack() {
             out.clear();
-            matches.forget();
+            matches.chain();
             out.number(120, 8);
             out.number(156, 8);
             for (int from = 0; from < row.length(); from += PART_LIMIT) {
@@ -953,7 +940,7 @@ public final class PieceRow {
 
         /** A number of k bits, or -1 if bits are missing. */
         int number(int k) {
-            if (k < 0 || k > bitsLeft()) {
+            if (k < 0 || k > end - at) {
                 return -1;
             }
             int value = 0;
@@ -1179,8 +1166,9 @@ public final class PieceRow {
                     return false;
                 }
                 int length = symbol < 16 ? symbol : symbol == 16 ? lengths[count - 1] : 0;
-                Arrays.fill(lengths, count, count + times, length);
-                count += times;
+                for (int end = count + times; count < end; count++) {
+                    lengths[count] = length;
+                }
             }
             return true;
         }

@@ -29,6 +29,9 @@ final class Model {
     /** How often each sort was chosen, so that a test can see that it reached all of them. */
     static final int[] chosen = new int[3];
 
+    /** How often stored took just as many bits as the next best, and fixed as many as made. */
+    static final int[] ties = new int[2];
+
     /** How often the limit 7 made other lengths than 15 would. */
     static int limited;
 
@@ -68,13 +71,15 @@ final class Model {
             }
         }
         String last = to == row.length ? "1" : "0";
-        int offset = bits.length();
-        Bits stored = new Bits().number(0, offset % 8).code(last).number(0, 2).align('0');
+        Bits stored = new Bits().code(last).number(0, 2);
+        while ((bits.length() + stored.length()) % 8 != 0) {
+            stored.code("0");
+        }
         stored.number(to - from, 16).number(65535 - (to - from), 16);
         for (int i = from; i < to; i++) {
             stored.number(row[i], 8);
         }
-        int storedBits = stored.length() - offset % 8;
+        int storedBits = stored.length();
 
         int[] fixedLengths = new int[288];
         int[] fiveBits = new int[32];
@@ -90,17 +95,11 @@ final class Model {
         made.add(header(symbolLengths, distanceLengths));
         made.add(told(tokens, symbolLengths, distanceLengths));
 
+        ties[0] += storedBits == Math.min(fixed.length(), made.length()) ? 1 : 0;
+        ties[1] += fixed.length() == made.length() && fixed.length() < storedBits ? 1 : 0;
         if (storedBits <= fixed.length() && storedBits <= made.length()) {
             chosen[0]++;
-            Bits again = new Bits().code(last).number(0, 2);
-            while ((offset + again.length()) % 8 != 0) {
-                again.code("0");
-            }
-            again.number(to - from, 16).number(65535 - (to - from), 16);
-            for (int i = from; i < to; i++) {
-                again.number(row[i], 8);
-            }
-            bits.add(again);
+            bits.add(stored);
         } else if (fixed.length() <= made.length()) {
             chosen[1]++;
             bits.add(fixed);

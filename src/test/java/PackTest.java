@@ -12,11 +12,14 @@ public final class PackTest {
         fills();
         rowsOfPuts();
         mixes();
+        nearTies();
         DUE.is("sorts that were reached", Model.chosen[0] > 0 && Model.chosen[1] > 0
             && Model.chosen[2] > 0 ? 1 : 0, 1);
         DUE.is("rows at which the limit 7 told were reached", Model.limited > 0 ? 1 : 0, 1);
+        DUE.is("ties of stored that were reached", Model.ties[0] > 10 ? 1 : 0, 1);
+        DUE.is("ties of fixed that were reached", Model.ties[1] > 10 ? 1 : 0, 1);
         System.out.println("parts stored, fixed, made: " + Arrays.toString(Model.chosen)
-            + ", limited: " + Model.limited);
+            + ", ties: " + Arrays.toString(Model.ties) + ", limited: " + Model.limited);
         DUE.end();
     }
 
@@ -111,6 +114,44 @@ public final class PackTest {
                 }
             }
             same("mix, round " + round, x, row, false);
+        }
+    }
+
+    /**
+     * A first part that packs well and ends at any bit, and a short second one that takes about as
+     * many bits in each sort.
+     */
+    private static void nearTies() throws DataFormatException {
+        Random random = new Random(5);
+        for (int round = 0; round < 3000; round++) {
+            byte[] first = new byte[1 + random.nextInt(40)];
+            random.nextBytes(first);
+            byte[] second = new byte[1 + random.nextInt(90)];
+            random.nextBytes(second);
+            int letters = 1 + random.nextInt(256);
+            int high = random.nextInt(112);
+            for (int i = 0; i < second.length; i++) {
+                int low = (second[i] & 255) % letters;
+                second[i] = (byte) (random.nextInt(100) < high ? low | 192 : low);
+            }
+            for (int again = random.nextInt(4); again > 0 && second.length > 12; again--) {
+                int n = 3 + random.nextInt(9);
+                int from = random.nextInt(first.length);
+                int to = random.nextInt(second.length - n);
+                System.arraycopy(first, from, second, to, Math.min(n, first.length - from));
+            }
+            byte[] row = Images.joined(new byte[4096 - first.length], first, second);
+            PieceRow x = new PieceRow();
+            if (random.nextInt(3) == 0) {
+                Arrays.fill(row, 0, 3000, (byte) 77);
+                x.fill(0, 77, 3000);
+                x.fill(0, 0, 1096 - first.length);
+            } else {
+                x.fill(0, 0, 4096 - first.length);
+            }
+            Images.putAll(x, first, 0);
+            Images.putAll(x, second, 0);
+            same("near a tie, round " + round, x, row, false);
         }
     }
 

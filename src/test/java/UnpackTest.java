@@ -15,6 +15,7 @@ public final class UnpackTest {
         windows();
         madeParts();
         madeLengths();
+        longestCodes();
         limitsOfBytes();
         checks();
         DUE.end();
@@ -363,6 +364,47 @@ public final class UnpackTest {
             byte[] some = Arrays.copyOf(whole.bytes(), Math.min(whole.length() / 8, bits / 8));
             faults("bits missing", Images.joined(bytes(120, 156), some));
         }
+    }
+
+    /** Codes of all lengths, 1 to 15, among symbols and distances. */
+    private static void longestCodes() {
+        int[] symbols = new int[286];
+        int[] distances = new int[16];
+        for (int i = 0; i < 16; i++) {
+            distances[i] = Math.min(15, 15 - i + (i == 0 ? 0 : 1));
+        }
+        for (int i = 0; i < 14; i++) {
+            symbols[3 * i] = i + 1;
+        }
+        symbols[256] = 15;
+        symbols[285] = 15;
+        int[] lengths = new int[19];
+        for (int s = 0; s < 16; s++) {
+            lengths[s] = 4;
+        }
+        String[] told = Model.codes(lengths);
+        Bits bits = made(29, 15, lengths);
+        for (int length : symbols) {
+            bits.code(told[length]);
+        }
+        for (int length : distances) {
+            bits.code(told[length]);
+        }
+        String[] symbolCodes = Model.codes(symbols);
+        String[] distanceCodes = Model.codes(distances);
+        byte[] held = new byte[14];
+        for (int i = 0; i < 14; i++) {
+            held[i] = (byte) (3 * i);
+            bits.code(symbolCodes[3 * i]);
+        }
+        for (int d = 0; d < 16; d++) {
+            bits.code(symbolCodes[285]).code(distanceCodes[d]).number(0, Model.DISTANCE_EXTRA[d]);
+            held = Arrays.copyOf(held, held.length + 258);
+            for (int i = held.length - 258; i < held.length; i++) {
+                held[i] = held[i - Model.DISTANCE_BASE[d]];
+            }
+        }
+        holds("codes of all lengths", bits.code(symbolCodes[256]), held);
     }
 
     private static void limitsOfBytes() {

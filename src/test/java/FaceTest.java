@@ -314,6 +314,13 @@ public final class FaceTest {
         DUE.is("start(7)", x.start(7), 7L * full.length);
         DUE.is("byteAt, the last", x.byteAt(65536L * 7 * full.length + 8191), 0);
         reads("eight and one byte", Images.joined(eight, one), -12);
+        PieceRow plain = new PieceRow();
+        plain.begin(true);
+        plain.fill(1, 1, 65536);
+        DUE.is("close() of eight plain ones", plain.close(), 8);
+        DUE.is("eight plain pieces", plain.read(), 65536);
+        DUE.is("the last one's last byte", plain.byteAt(65536L * 7 * 8194 + 8191),
+            plain.word(8193) >>> 56);
         reads("nine", Images.joined(eight, full), -12);
         reads("nine and a wrong head", Images.joined(eight, full, new byte[3]), -11);
         byte[] many = one;

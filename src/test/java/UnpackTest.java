@@ -140,6 +140,8 @@ public final class UnpackTest {
             wrong.number(65532 ^ 1 << bit, 16).number(5, 8).number(0, 8).number(255, 8);
             faults("stored, the second number's bit " + bit, wrong, held);
         }
+        Bits noneWrong = fixedPart(false, held).number(1, 1).number(0, 2).align('0');
+        faults("stored none, the numbers don't fit", noneWrong.number(0, 16).number(65534, 16), held);
         Bits missing = new Bits().number(1, 1).number(0, 2).align('0').number(20, 16);
         faults("stored, bytes missing", missing.number(65515, 16).number(5, 8), bytes(5));
         Bits intoCheck = new Bits().number(1, 1).number(0, 2).align('0').number(5, 16);
@@ -164,6 +166,10 @@ public final class UnpackTest {
         for (int s = 286; s <= 287; s++) {
             Bits bits = fixedPart(true).code(Bits.fixed(9)).code(Bits.fixed(s));
             faults("symbol " + s, bits.code("00000").code(Bits.fixed(256)), bytes(9));
+            faults("symbol " + s + " at the end",
+                fixedPart(true).code(Bits.fixed(9)).code(Bits.fixed(s)), bytes(9));
+            faults("symbol " + s + " left out", fixedPart(true).code(Bits.fixed(9))
+                .code(Bits.fixed(s)).code(Bits.fixed(256)), bytes(9));
         }
     }
 
@@ -412,6 +418,8 @@ public final class UnpackTest {
         faults("8193 bytes by a length", runOf(8193), many(3, 8193));
         Bits byOne = new Bits().add(runPart(false, 8192)).add(fixedPart(true, bytes(3)));
         faults("8193 bytes by a byte", byOne, many(3, 8193));
+        Bits cutOff = new Bits().add(runPart(false, 8192)).add(fixedPart(true)).code(Bits.fixed(3));
+        faults("8193 bytes, ended by it", cutOff, many(3, 8192));
         Bits stored = storedPart(runPart(false, 8190), true, many(3, 2));
         holds("8192 bytes by a stored part", stored, many(3, 8192));
         stored = storedPart(runPart(false, 8190), true, many(3, 3));

@@ -27,6 +27,11 @@ final class Bits {
         return this;
     }
 
+    /** All bits but the first ones. */
+    Bits from(int first) {
+        return new Bits().code(text.substring(first));
+    }
+
     int length() {
         return text.length();
     }

@@ -60,6 +60,19 @@ final class Model {
     }
 
     private static void addPart(Bits bits, byte[] row, int from, int to) {
+        Bits[] sorts = sorts(bits.length(), row, from, to);
+        int stored = sorts[0].length();
+        int fixed = sorts[1].length();
+        int made = sorts[2].length();
+        ties[0] += stored == Math.min(fixed, made) ? 1 : 0;
+        ties[1] += fixed == made && fixed < stored ? 1 : 0;
+        int sort = stored <= fixed && stored <= made ? 0 : fixed <= made ? 1 : 2;
+        chosen[sort]++;
+        bits.add(sorts[sort]);
+    }
+
+    /** A part of the row in each sort, when so many bits stand before it. */
+    static Bits[] sorts(int before, byte[] row, int from, int to) {
         List<int[]> tokens = tokens(row, from, to);
         int[] symbolCounts = new int[286];
         int[] distanceCounts = new int[30];
@@ -72,14 +85,13 @@ final class Model {
         }
         String last = to == row.length ? "1" : "0";
         Bits stored = new Bits().code(last).number(0, 2);
-        while ((bits.length() + stored.length()) % 8 != 0) {
+        while ((before + stored.length()) % 8 != 0) {
             stored.code("0");
         }
         stored.number(to - from, 16).number(65535 - (to - from), 16);
         for (int i = from; i < to; i++) {
             stored.number(row[i], 8);
         }
-        int storedBits = stored.length();
 
         int[] fixedLengths = new int[288];
         int[] fiveBits = new int[32];
@@ -94,19 +106,7 @@ final class Model {
         Bits made = new Bits().code(last).number(2, 2);
         made.add(header(symbolLengths, distanceLengths));
         made.add(told(tokens, symbolLengths, distanceLengths));
-
-        ties[0] += storedBits == Math.min(fixed.length(), made.length()) ? 1 : 0;
-        ties[1] += fixed.length() == made.length() && fixed.length() < storedBits ? 1 : 0;
-        if (storedBits <= fixed.length() && storedBits <= made.length()) {
-            chosen[0]++;
-            bits.add(stored);
-        } else if (fixed.length() <= made.length()) {
-            chosen[1]++;
-            bits.add(fixed);
-        } else {
-            chosen[2]++;
-            bits.add(made);
-        }
+        return new Bits[] {stored, fixed, made};
     }
 
     /** A byte alone, or: symbol, length, distance, the distance's symbol. */
@@ -196,6 +196,15 @@ final class Model {
     }
 
     static int[] lengths(int[] counts, int limit) {
+        return lengths(counts, limit, false);
+    }
+
+    /** Not what the document says: pairs before symbols. It shows at which counts the order tells. */
+    static int[] lengthsPairsFirst(int[] counts, int limit) {
+        return lengths(counts, limit, true);
+    }
+
+    private static int[] lengths(int[] counts, int limit, boolean pairsFirst) {
         int[] lengths = new int[counts.length];
         List<Item> symbols = new ArrayList<>();
         for (int s = 0; s < counts.length; s++) {
@@ -212,12 +221,15 @@ final class Model {
         symbols.sort(Comparator.comparingInt(Item::count));
         List<Item> list = new ArrayList<>(symbols);
         for (int k = 1; k < limit; k++) {
-            List<Item> next = new ArrayList<>(symbols);
+            List<Item> pairs = new ArrayList<>();
             for (int i = 0; i + 1 < list.size(); i += 2) {
                 Item one = list.get(i);
                 Item two = list.get(i + 1);
-                next.add(new Item(one.count() + two.count(), -1, one, two));
+                pairs.add(new Item(one.count() + two.count(), -1, one, two));
             }
+            // sorting leaves the same ones in the order in which they came
+            List<Item> next = new ArrayList<>(pairsFirst ? pairs : symbols);
+            next.addAll(pairsFirst ? symbols : pairs);
             next.sort(Comparator.comparingInt(Item::count));
             list = next;
         }

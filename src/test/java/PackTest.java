@@ -31,8 +31,8 @@ public final class PackTest {
                 for (int i = 0; i < n; i++) {
                     row[i] = (byte) (random.nextInt(letters) * 37 + 100);
                 }
-                PieceRow x = new PieceRow();
-                Images.putAll(x, row, 0);
+                Run x = new Run();
+                x.putAll(row);
                 same("short row of " + n + " bytes, " + letters + " letters", x, row, false);
             }
         }
@@ -47,8 +47,8 @@ public final class PackTest {
         for (int kind = 0; kind < 3; kind++) {
             for (int n : sizes) {
                 for (int b : new int[] {0, 65, -1, 143 + 256, 144, 123456789, Integer.MIN_VALUE}) {
-                    PieceRow x = new PieceRow();
-                    byte[] row = filled(kind, b, n);
+                    Run x = new Run();
+                    byte[] row = Content.filled(kind, b, n);
                     String call = "fill(" + kind + ", " + b + ", " + n + ")";
                     DUE.is(call, x.fill(kind, b, n), n);
                     same(call, x, row, false);
@@ -80,8 +80,8 @@ public final class PackTest {
                     row[i++] = (byte) (letters * Math.pow(random.nextDouble(), skew));
                 }
             }
-            PieceRow x = new PieceRow();
-            Images.putAll(x, row, 0);
+            Run x = new Run();
+            x.putAll(row);
             same("row of puts, round " + round, x, row, false);
         }
     }
@@ -90,7 +90,7 @@ public final class PackTest {
     private static void mixes() throws DataFormatException {
         Random random = new Random(3);
         for (int round = 0; round < 300; round++) {
-            PieceRow x = new PieceRow();
+            Run x = new Run();
             byte[] row = new byte[0];
             int calls = 1 + random.nextInt(random.nextBoolean() ? 20 : 300);
             int most = random.nextBoolean() ? 40 : 800;
@@ -109,7 +109,7 @@ public final class PackTest {
                     int kind = random.nextInt(3);
                     int b = random.nextInt(seeds);
                     int n = 1 + random.nextInt(most);
-                    row = Images.joined(row, filled(kind, b, n));
+                    row = Images.joined(row, Content.filled(kind, b, n));
                     DUE.is("fill(" + kind + ", " + b + ", " + n + ")", x.fill(kind, b, n), row.length);
                 }
             }
@@ -141,7 +141,7 @@ public final class PackTest {
                 System.arraycopy(first, from, second, to, Math.min(n, first.length - from));
             }
             byte[] row = Images.joined(new byte[4096 - first.length], first, second);
-            PieceRow x = new PieceRow();
+            Run x = new Run();
             if (random.nextInt(3) == 0) {
                 Arrays.fill(row, 0, 3000, (byte) 77);
                 x.fill(0, 77, 3000);
@@ -149,31 +149,21 @@ public final class PackTest {
             } else {
                 x.fill(0, 0, 4096 - first.length);
             }
-            Images.putAll(x, first, 0);
-            Images.putAll(x, second, 0);
+            x.putAll(first);
+            x.putAll(second);
             same("near a tie, round " + round, x, row, false);
         }
     }
 
-    static byte[] filled(int kind, int b, int n) {
-        byte[] bytes = new byte[n];
-        int x = b;
-        for (int i = 0; i < n; i++) {
-            x = 1103515245 * x + 12345;
-            bytes[i] = (byte) (kind == 0 ? b : kind == 1 ? x >>> 16 : 97 + (x >>> 16) % 4);
-        }
-        return bytes;
-    }
-
     /** Closes the row, compares its image with the model's and with zlib, and reads it back. */
-    private static void same(String what, PieceRow x, byte[] row, boolean plain)
+    private static void same(String what, Run x, byte[] row, boolean plain)
         throws DataFormatException {
         int full = row.length / 8192;
         byte[] closedSoFar = Model.image(Arrays.copyOf(row, full * 8192), plain);
         DUE.is(what + ": reference()", x.reference(), 65536L * closedSoFar.length + row.length % 8192);
         DUE.is(what + ": size(0) before close()", x.size(0), closedSoFar.length);
         DUE.is(what + ": close()", x.close(), (row.length + 8191) / 8192);
-        byte[] image = Images.of(x);
+        byte[] image = x.image();
         byte[] want = Model.image(row, plain);
         DUE.is(what + ": image is not the model's from", Arrays.mismatch(image, want), -1);
         DUE.is(what + ": zlib's bytes differ from", Arrays.mismatch(unpacked(image), row), -1);

@@ -98,7 +98,7 @@ public final class UnpackFuzzTest {
         byte[] due = holds ? Arrays.copyOf(bytes, n) : new byte[] {1};
         byte[] ended = holds ? Arrays.copyOf(parts, used) : parts;
         byte[] packed = Images.packed(120, 156, ended, due);
-        PieceRow x = Images.laid(Images.packedPiece(packed));
+        Run x = Images.laid(Images.packedPiece(packed));
         DUE.is(what + ": read()", x.read(), holds ? n : -12);
         for (int i = 0; holds && i < n; i += 1 + n / 50) {
             DUE.is(what + ": byteAt(" + i + ")", x.byteAt(i), bytes[i] & 255);

@@ -176,11 +176,13 @@ final class FaultEdges {
         rows.faults("with a byte behind", PackedRows.fixedPart(true, held).from(3), held);
         rows.faults("in the place of fixed", new Bits().add(three).add(PackedRows.fixedPart(true, held).from(3)), held);
         rows.faults("in the place of made",
-            new Bits().add(three).add(PackedRows.told(PackedRows.made(0, 0, EIGHT), A_AND_END).from(3)).code("000"), held);
+            new Bits().add(three).add(PackedRows.told(PackedRows.made(0, 0, EIGHT), A_AND_END).from(3)).code("000"),
+            held);
         Bits stored = new Bits().add(three).align('0').number(3, 16).number(65532, 16);
         rows.faults("in the place of stored", stored.number(7, 8).number(200, 8).number(7, 8), held);
         rows.faults("in the last part", PackedRows.fixedPart(false, held).add(three), held);
-        rows.faults("before the last part", new Bits().number(0, 1).number(3, 2).add(PackedRows.fixedPart(true, held)), held);
+        Bits first = new Bits().number(0, 1).number(3, 2);
+        rows.faults("before the last part", first.add(PackedRows.fixedPart(true, held)), held);
     }
 
     private void storedNumbers() {
@@ -477,10 +479,12 @@ final class FaultEdges {
         Bits match = PackedRows.fixedPart(true).code(Bits.fixed(257)).code("00000").code(Bits.fixed(256));
         byte[] second = Images.packedPiece(Images.packed(120, 156, match.bytes(), three));
         due.is("into the piece before", Images.laid(Images.joined(full, second)).read(), -12);
-        Bits own = PackedRows.fixedPart(true).code(Bits.fixed(3)).code(Bits.fixed(257)).code("00001").code(Bits.fixed(256));
+        Bits own = PackedRows.fixedPart(true).code(Bits.fixed(3));
+        own.code(Bits.fixed(257)).code("00001").code(Bits.fixed(256));
         second = Images.packedPiece(Images.packed(120, 156, own.bytes(), Images.many(3, 4)));
         due.is("one byte into the piece before", Images.laid(Images.joined(full, second)).read(), -12);
-        own = PackedRows.fixedPart(true).code(Bits.fixed(3)).code(Bits.fixed(257)).code("00000").code(Bits.fixed(256));
+        own = PackedRows.fixedPart(true).code(Bits.fixed(3));
+        own.code(Bits.fixed(257)).code("00000").code(Bits.fixed(256));
         second = Images.packedPiece(Images.packed(120, 156, own.bytes(), Images.many(3, 4)));
         due.is("just its own", Images.laid(Images.joined(full, second)).read(), 8196);
     }
@@ -555,8 +559,10 @@ final class FaultEdges {
 
     /** Each piece may have 8192 for itself, whatever came before. */
     private void moreBehindAFullPiece() {
-        byte[] full = Images.packedPiece(Images.packed(120, 156, PackedRows.runPart(true, 8192).bytes(), Images.many(3, 8192)));
-        byte[] over = Images.packedPiece(Images.packed(120, 156, PackedRows.runPart(true, 8193).bytes(), Images.many(3, 8193)));
+        byte[] full = Images.packedPiece(
+            Images.packed(120, 156, PackedRows.runPart(true, 8192).bytes(), Images.many(3, 8192)));
+        byte[] over = Images.packedPiece(
+            Images.packed(120, 156, PackedRows.runPart(true, 8193).bytes(), Images.many(3, 8193)));
         due.is("twice 8192", Images.laid(Images.joined(full, full)).read(), 16384);
         due.is("8193 behind 8192", Images.laid(Images.joined(full, over)).read(), -12);
     }

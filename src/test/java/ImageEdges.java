@@ -6,6 +6,8 @@ final class ImageEdges {
     private static final int NONE = -2;
     private static final int LEAST = Integer.MIN_VALUE;
     private static final int MOST = Integer.MAX_VALUE;
+    private static final String SIZE = "How many bytes the image has (0), what was read (1); "
+        + "how many pieces were read (2) (both 0 when there is none).";
     private static final String PATCH_REFUSED =
         "A byte of the image becomes b (its lowest eight bits): what it was. "
         + "BAD: the row is not closed; NONE: there is none.";
@@ -34,7 +36,7 @@ final class ImageEdges {
     }
 
     private void sizeOfImage() {
-        due.by("How many bytes the image has (0), what was read (1); how many pieces were read (2) (both 0 when there is none).");
+        due.by(SIZE);
         Run x = RowEdges.plainRow();
         due.is("size(0) of none", x.size(0), 0);
         x.fill(0, 9, 8191);
@@ -53,7 +55,7 @@ final class ImageEdges {
     }
 
     private void sizeOfWhatWasRead() {
-        due.by("How many bytes the image has (0), what was read (1); how many pieces were read (2) (both 0 when there is none).");
+        due.by(SIZE);
         Run x = new Run();
         sizes(x, "new", 0, 0);
         x.fill(0, 9, 65536);

@@ -493,7 +493,8 @@ final class PackedRowEdges {
         symbols[9] = 3;
         symbols[256] = 3;
         bits = PackedRows.toldOneByOne(symbols, new int[] {0});
-        rows.holds("lengths 1, 2 and 3", bits.code("0").code("10").code("110").code("0").code("111"), bytes(7, 5, 9, 7));
+        bits.code("0").code("10").code("110").code("0").code("111");
+        rows.holds("lengths 1, 2 and 3", bits, bytes(7, 5, 9, 7));
     }
 
     private void noCode() {

@@ -116,7 +116,7 @@ final class PackedRows {
         return bits;
     }
 
-    /** A made part that tells each length by its own code of four bits; none of them is 15. */
+    /** A made part that tells each length by its own code of four bits. */
     static Bits toldOneByOne(int[] symbols, int[] distances) {
         int[] nineteen = new int[19];
         for (int s = 0; s < 16; s++) {

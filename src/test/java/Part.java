@@ -1,4 +1,5 @@
 import java.util.ArrayList;
+import java.util.Arrays;
 import java.util.HashMap;
 import java.util.List;
 import java.util.Map;
@@ -88,7 +89,7 @@ final class Part {
             symbolLengths[s] = Bits.fixed(s).length();
         }
         distanceLengths = new int[32];
-        java.util.Arrays.fill(distanceLengths, 5);
+        Arrays.fill(distanceLengths, 5);
     }
 
     private void make(Reader in) {
@@ -111,8 +112,8 @@ final class Part {
                 row[at++] = length;
             }
         }
-        symbolLengths = java.util.Arrays.copyOf(row, h + 257);
-        distanceLengths = java.util.Arrays.copyOfRange(row, h + 257, row.length);
+        symbolLengths = Arrays.copyOf(row, h + 257);
+        distanceLengths = Arrays.copyOfRange(row, h + 257, row.length);
     }
 
     private void readTokens(Reader in) {

@@ -54,7 +54,8 @@ final class ReadEdges {
     }
 
     private void firstFault() {
-        due.by("READING the image, from its beginning, looks for what does not hold, and names the first of these faults:");
+        due.by("READING the image, from its beginning, looks for what does not hold, "
+            + "and names the first of these faults:");
         byte[] noRow = Images.packedPiece(Images.bytes(1, 2, 3));
         byte[] noHead = Images.bytes(0, 0);
         reads("no packed row", noRow, PIECES);
@@ -71,7 +72,8 @@ final class ReadEdges {
         due.by("1 HEADS: each piece's head tells 1 to 8192 bytes,");
         for (int more : new int[] {0, 32768}) {
             reads("a head of 0 and " + more, Images.piece(more, Images.bytes(5)), HEADS);
-            reads("a head of 0 and " + more + " behind a piece", Images.joined(full, Images.bytes(0, more >> 8)), HEADS);
+            byte[] head = Images.bytes(0, more >> 8);
+            reads("a head of 0 and " + more + " behind a piece", Images.joined(full, head), HEADS);
             reads("a head of 16385 and " + more, Images.piece(1 + 16384 + more, Images.bytes(5)), HEADS);
             reads("a head of 8193 and " + more + ", bytes missing", Images.piece(8193 + more, new byte[3000]), HEADS);
         }
@@ -100,7 +102,7 @@ final class ReadEdges {
             }
             due.is(n + " bytes", new Content().fill(0, 7, n).closed(true).read(), n);
         }
-        reads("a byte missing in a packed one", Images.piece(full.length - 1, Arrays.copyOfRange(full, 2, full.length - 1)), HEADS);
+        reads("a byte missing in a packed one", Arrays.copyOf(full, full.length - 1), HEADS);
         reads("half a head behind", Images.joined(full, Images.bytes(1)), HEADS);
         reads("half a head of 0 behind", Images.joined(full, Images.bytes(0)), HEADS);
         reads("a head without bytes behind", Images.joined(full, Images.bytes(1, 128)), HEADS);
@@ -114,7 +116,8 @@ final class ReadEdges {
     }
 
     private void packedRowsHold() {
-        due.by("2 PIECES, one after the other: each that is packed is a packed row, without a fault, of 1 to 8192 bytes;");
+        due.by("2 PIECES, one after the other: each that is packed is a packed row, without a fault, "
+            + "of 1 to 8192 bytes;");
         byte[] none = Images.packedPiece(Images.packed(120, 156, Images.bytes(3, 0), new byte[0]));
         reads("of none", none, PIECES);
         reads("of none behind a full one", Images.joined(full, none), PIECES);
@@ -172,7 +175,8 @@ final class ReadEdges {
         due.is("the last byte", x.byteAt(65536L * 7 * full.length + 8191), 0);
         reads("seven, and 8191", Images.joined(times(full, 7), Images.packedPiece(Model.pack(new byte[8191]))), 65535);
         reads("eight, and one byte", Images.joined(eight, one), PIECES);
-        reads("eight, and a packed row of one", Images.joined(eight, Images.packedPiece(Model.pack(new byte[1]))), PIECES);
+        byte[] packedOne = Images.packedPiece(Model.pack(new byte[1]));
+        reads("eight, and a packed row of one", Images.joined(eight, packedOne), PIECES);
         reads("nine", times(full, 9), PIECES);
         reads("ten", times(full, 10), PIECES);
         reads("a thousand", times(one, 1000), PIECES);

@@ -449,9 +449,9 @@ final class RowEdges {
     }
 
     private void fill() {
-        due.by("So many bytes that are b's lowest eight bits (kind 0), or bytes drawn from b (1: the bits 16 .. 23 of x, "
-            + "which is at first b and becomes 1103515245 x + 12345, an int, before each; 2: the same, but 97 more "
-            + "than the bits 16 and 17) come behind the row: how many it has.");
+        due.by("So many bytes that are b's lowest eight bits (kind 0), or bytes drawn from b "
+            + "(1: the bits 16 .. 23 of x, which is at first b and becomes 1103515245 x + 12345, an int, "
+            + "before each; 2: the same, but 97 more than the bits 16 and 17) come behind the row: how many it has.");
         Run x = plainRow();
         due.is("fill(0, 513, 2)", x.fill(0, 513, 2), 2);
         due.is("fill(1, 1, 3)", x.fill(1, 1, 3), 5);

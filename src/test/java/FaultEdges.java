@@ -221,6 +221,13 @@ final class FaultEdges {
             bits = PackedRows.told(PackedRows.told(PackedRows.made(10, n, EIGHT), A_AND_END), 18, n);
             rows.either("h 10, d " + n, n <= 29, bits.code("001"), held);
         }
+        for (int[] above : new int[][] {{30, 0}, {0, 30}, {31, 31}}) {
+            // the codes of the part before are not to be used again
+            Bits bits = new Bits().code("0").add(PackedRows.told(PackedRows.made(0, 0, EIGHT), A_AND_END).from(1));
+            PackedRows.told(bits, 0).code("001").number(1, 1).number(2, 2);
+            bits.number(above[0], 5).number(above[1], 5).number(0, 4).code("001");
+            rows.faults("h " + above[0] + ", d " + above[1] + " behind a made part", bits, Images.many(65, 4));
+        }
     }
 
     private void sixteenAtFirst() {
@@ -410,10 +417,30 @@ final class FaultEdges {
         byte[] held = bytes(1, 2, 3, 4);
         bits = PackedRows.storedPart(new Bits(), false, held).add(lengths(of(), 1, 0));
         rows.holds("256 alone", bits.code("0"), held);
-        bits = PackedRows.storedPart(new Bits(), false, held).add(lengths(of(), 1, 0));
-        rows.faults("256 alone, but the other bit", bits.code("1"), held);
-        bits = PackedRows.storedPart(new Bits(), false, held).add(lengths(of(), 1, 0));
-        rows.faults("256 alone, but the other bit at first", bits.code("10"), held);
+        for (int k = 1; k <= 16; k++) {
+            String other = "1".repeat(k);
+            bits = PackedRows.storedPart(new Bits(), false, held).add(lengths(of(), 1, 0));
+            rows.faults("256 alone, but " + other, bits.code(other).code("0"),
+                held, Images.joined(held, bytes(0)), Images.joined(held, bytes(255)));
+            bits = PackedRows.told(PackedRows.told(PackedRows.made(1, 0, EIGHT), A_END_AND_THREE), 1);
+            rows.faults("one distance alone, but " + other, bits.code("0").code("11").code(other).code("10"),
+                bytes(65), Images.many(65, 4), bytes(65, 0, 0, 0));
+            bits = PackedRows.told(PackedRows.told(PackedRows.made(1, 0, EIGHT), A_END_AND_THREE), 0);
+            rows.faults("no distance, " + other, bits.code("0").code("11").code(other).code("10"),
+                bytes(65), Images.many(65, 4), bytes(65, 0, 0, 0));
+            rows.faults("8 alone of the 19, and " + other, eightAlone(other), bytes(200));
+        }
+    }
+
+    /** Of the 19 just 8 has a code; byte 0 and the distance, which have none, are told by other bits. */
+    private static Bits eightAlone(String other) {
+        int[] nineteen = new int[19];
+        nineteen[8] = 1;
+        Bits bits = PackedRows.made(0, 0, nineteen).code(other);
+        for (int s = 1; s <= 256; s++) {
+            bits.code("0");
+        }
+        return bits.code(other).code(Bits.binary(199, 8)).code("11111111");
     }
 
     private void symbolsAbove() {
@@ -442,7 +469,7 @@ final class FaultEdges {
             for (int extra = 0; extra <= 14; extra++) {
                 Bits bits = PackedRows.fixedPart(true).code(Bits.fixed(9)).code(Bits.fixed(257));
                 bits.code(Bits.binary(d, 5)).number(0, extra).code(Bits.fixed(256));
-                rows.faults("distance symbol " + d + ", " + extra + " bits", bits, held);
+                rows.faults("distance symbol " + d + ", " + extra + " bits", bits, held, bytes(9), bytes(9, 0, 0, 0));
             }
         }
     }
@@ -460,15 +487,19 @@ final class FaultEdges {
                 rows.holds("distance " + distance, PackedRows.match(before, d, more),
                     PackedRows.continued(before, distance, 3));
                 byte[] fewer = Arrays.copyOf(held, distance - 1);
-                byte[] guess = Images.joined(fewer, new byte[3]);
-                rows.faults("distance " + distance + " of one less", PackedRows.match(fewer, d, more), guess);
+                byte[] as0 = PackedRows.continued(Images.joined(bytes(0), fewer), distance, 3);
+                rows.faults("distance " + distance + " of one less", PackedRows.match(fewer, d, more),
+                    Arrays.copyOfRange(as0, 1, as0.length), fewer, Images.joined(fewer, new byte[3]));
             }
         }
         for (int d = 24; d < 30; d++) {
-            rows.faults("distance symbol " + d, PackedRows.match(held, d, 0), Images.joined(held, new byte[3]));
+            rows.faults("distance symbol " + d, PackedRows.match(held, d, 0), Images.joined(held, new byte[3]), held);
         }
         Bits atFirst = PackedRows.fixedPart(true).code(Bits.fixed(257)).code("00000").code(Bits.fixed(256));
-        rows.faults("at first", atFirst, new byte[3]);
+        rows.faults("at first", atFirst, new byte[3], NOTHING);
+        Bits thenAByte = PackedRows.fixedPart(true).code(Bits.fixed(257)).code("00000");
+        rows.faults("at first, then a byte", thenAByte.code(Bits.fixed(9)).code(Bits.fixed(256)),
+            bytes(9), bytes(0, 0, 0, 9), bytes(9, 9, 9, 9));
         intoThePieceBefore();
     }
 
@@ -520,6 +551,8 @@ final class FaultEdges {
             rows.holds("distance " + distance + " with " + x, packed, held);
         } else {
             rows.faults("distance " + distance + " with " + x, packed);
+            byte[] without = Images.packed(x, y, bits.bytes(), before);
+            rows.faults("distance " + distance + " with " + x + ", left out", without);
         }
     }
 
@@ -528,12 +561,11 @@ final class FaultEdges {
         byte[] most = Images.many(3, 8192);
         byte[] more = Images.many(3, 8193);
         rows.holds("8192 by a length", PackedRows.runPart(true, 8192), most);
-        rows.faults("8193 by a length", PackedRows.runPart(true, 8193), more);
+        rows.faults("8193 by a length", PackedRows.runPart(true, 8193), more, most, Images.many(3, 8193 - 258));
         Bits byOne = PackedRows.runPart(false, 8191).add(PackedRows.fixedPart(true, bytes(3)));
         rows.holds("8192 by a byte", byOne, most);
         byOne = PackedRows.runPart(false, 8192).add(PackedRows.fixedPart(true, bytes(3)));
-        rows.faults("8193 by a byte", byOne, more);
-        rows.faults("8193 by a byte, the check of 8192", byOne, most);
+        rows.faults("8193 by a byte", byOne, more, most);
         Bits ended = PackedRows.runPart(false, 8192).add(PackedRows.fixedPart(true)).code(Bits.fixed(3));
         rows.faults("8193 by a byte, and no end", ended, most);
         for (int length = 3; length <= 258; length += 255) {
@@ -541,14 +573,17 @@ final class FaultEdges {
                 Bits bits = PackedRows.runPart(false, 8192 - length + over).add(PackedRows.fixedPart(true));
                 bits.code(Bits.fixed(length == 3 ? 257 : 285)).code("00000").code(Bits.fixed(256));
                 rows.either(8192 + over + " by a length of " + length, over == 0, bits, over == 0 ? most : more);
+                if (over > 0) {
+                    rows.faults("8193 by a length of " + length, bits, most, Images.many(3, 8193 - length));
+                }
             }
         }
         Bits stored = PackedRows.storedPart(PackedRows.runPart(false, 8190), true, Images.many(3, 2));
         rows.holds("8192 by a stored part", stored, most);
         stored = PackedRows.storedPart(PackedRows.runPart(false, 8190), true, Images.many(3, 3));
-        rows.faults("8193 by a stored part", stored, more);
+        rows.faults("8193 by a stored part", stored, more, most, Images.many(3, 8190));
         stored = PackedRows.storedPart(PackedRows.runPart(false, 8192), true, bytes(3));
-        rows.faults("8193 by a stored byte", stored, more);
+        rows.faults("8193 by a stored byte", stored, more, most);
         Bits none = PackedRows.storedPart(PackedRows.runPart(false, 8192), true, NOTHING);
         rows.holds("8192 and a stored part of none", none, most);
         Bits noneFixed = PackedRows.runPart(false, 8192).add(PackedRows.fixedPart(true, NOTHING));

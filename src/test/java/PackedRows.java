@@ -53,9 +53,11 @@ final class PackedRows {
         holds(what, Images.packed(120, 156, parts.bytes(), held), held);
     }
 
-    /** A fault, though the check is the one of these bytes. */
-    void faults(String what, Bits parts, byte[] held) {
-        faults(what, Images.packed(120, 156, parts.bytes(), held));
+    /** A fault, though the check is the one of these bytes, or of those, which one may take it for. */
+    void faults(String what, Bits parts, byte[]... helds) {
+        for (byte[] held : helds) {
+            faults(what + ", as " + held.length + " bytes", Images.packed(120, 156, parts.bytes(), held));
+        }
     }
 
     void either(String what, boolean holds, Bits parts, byte[] held) {

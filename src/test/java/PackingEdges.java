@@ -495,6 +495,21 @@ final class PackingEdges {
         }
         due.holds("stretches over the border that tell were reached", over > 0);
         stretchOverTheBorder();
+        stretchOfOnes();
+    }
+
+    /** Nearly all symbols are 285, half of them from 1 and half from 2: the lengths of 285 and both are 1. */
+    private void stretchOfOnes() {
+        byte[] turns = new byte[2000];
+        for (int i = 0; i < turns.length; i++) {
+            turns[i] = (byte) (7 + i % 2);
+        }
+        Part part = new Content().fill(0, 7, 2000).bytes(turns).parts().get(0);
+        due.is("made", part.sort, 2);
+        due.is("the length of 285", part.symbolLengths[285], 1);
+        due.is("lengths of distances", Arrays.toString(part.distanceLengths), "[1, 1]");
+        int end = part.told.size();
+        due.is("told at the end", String.join(" ", part.told.subList(end - 3, end)), "1 1 1");
     }
 
     /** Matches of three bytes alone, as often from 1 as from 2, 3 and 4: 257 and all distances have 2 bits. */
@@ -649,7 +664,7 @@ final class PackingEdges {
         TreeSet<Integer> reachedMade = new TreeSet<>();
         TreeSet<Integer> leftBits = new TreeSet<>();
         Random random = new Random(21);
-        for (int round = 0; round < 1500; round++) {
+        for (int round = 0; round < 2500; round++) {
             Content content = nearTie(random, round % 2 == 0);
             byte[] row = content.row();
             Bits first = Model.sorts(16, row, 0, 4096)[2];
@@ -686,6 +701,11 @@ final class PackingEdges {
         for (int i = 0; i < second.length; i++) {
             int any = random.nextInt(256);
             second[i] = (byte) (few ? random.nextInt(100) < high ? any | 192 : any : 80 + random.nextInt(letters));
+        }
+        // bytes that come again, some of them by lengths and distances with bits behind them
+        for (int again = random.nextInt(3); again > 0 && few && second.length > 30; again--) {
+            int n = Math.min(first.length, 3 + random.nextInt(20));
+            System.arraycopy(first, 0, second, random.nextInt(second.length - n), n);
         }
         return new Content().fill(0, 0, 4096 - first.length).bytes(first).bytes(second);
     }

@@ -12,6 +12,9 @@ final class PackingEdges {
     private static final int[] ORDER = {
         16, 17, 18, 0, 8, 7, 9, 6, 10, 5, 11, 4, 12, 3, 13, 2, 14, 1, 15
     };
+    private static final String LENGTHS =
+        "LENGTHS of codes for counts, with a limit (15, and 7 for the 19): none for a count 0; "
+        + "1, when there is just one that is not;";
 
     private final Due due;
     private final List<Part> drawnParts = new ArrayList<>();
@@ -33,6 +36,7 @@ final class PackingEdges {
         edges.counts();
         edges.fewCounts();
         edges.limitOfTheNineteen();
+        edges.limitOfSymbols();
         edges.firstList();
         edges.nextLists();
         edges.orderOfLists();
@@ -312,8 +316,7 @@ final class PackingEdges {
     }
 
     private void fewCounts() {
-        due.by("LENGTHS of codes for counts, with a limit (15, and 7 for the 19): none for a count 0; "
-            + "1, when there is just one that is not;");
+        due.by(LENGTHS);
         boolean none = false;
         boolean one = false;
         for (Part part : drawnParts) {
@@ -344,8 +347,7 @@ final class PackingEdges {
     }
 
     private void limitOfTheNineteen() {
-        due.by("LENGTHS of codes for counts, with a limit (15, and 7 for the 19): none for a count 0; "
-            + "1, when there is just one that is not;");
+        due.by(LENGTHS);
         int limited = 0;
         int longest = 0;
         for (Part part : drawnParts) {
@@ -355,6 +357,29 @@ final class PackingEdges {
         }
         due.holds("parts at which the limit 7 tells were reached", limited > 0);
         due.holds("lengths of symbols far above 7 were reached", longest >= 11);
+    }
+
+    /** Lengths up to 15 come; for one that were above 15 a part of 4096 bytes has too few symbols. */
+    private void limitOfSymbols() {
+        due.by(LENGTHS);
+        Content content = DeepRow.content();
+        Part deep = content.parts().get(1);
+        due.is("made", deep.sort, 2);
+        for (int i = 0; i < DeepRow.LETTER_COUNTS.length; i++) {
+            int letter = DeepRow.FIRST_LETTER + i;
+            due.is("how often letter " + i + " comes", deep.symbolCounts[letter], DeepRow.LETTER_COUNTS[i]);
+            due.is("the length of letter " + i, deep.symbolLengths[letter], DeepRow.LETTER_LENGTHS[i]);
+        }
+        due.is("the length of 256", deep.symbolLengths[256], 14);
+        due.is("how often three bytes come again", deep.symbolCounts[257], DeepRow.MATCHES);
+        due.is("the length of 257", deep.symbolLengths[257], 1);
+        Run x = content.closed(false);
+        due.is("the image is not the model's from",
+            Arrays.mismatch(x.image(), Model.image(content.row(), false)), -1);
+        due.is("read()", x.read(), content.row().length);
+        for (int i = 4096; i < content.row().length; i += 37) {
+            due.is("byteAt(" + i + ")", x.byteAt(i), content.row()[i] & 255);
+        }
     }
 
     /** The document's words by hand, so that the model is not trusted blindly. */

@@ -421,7 +421,8 @@ final class FaultEdges {
             String other = "1".repeat(k);
             bits = PackedRows.storedPart(new Bits(), false, held).add(lengths(of(), 1, 0));
             rows.faults("256 alone, but " + other, bits.code(other).code("0"),
-                held, Images.joined(held, bytes(0)), Images.joined(held, bytes(255)));
+                held, Images.joined(held, bytes(0)), Images.joined(held, bytes(1)),
+                Images.joined(held, bytes(255)));
             bits = PackedRows.told(PackedRows.told(PackedRows.made(1, 0, EIGHT), A_END_AND_THREE), 1);
             rows.faults("one distance alone, but " + other, bits.code("0").code("11").code(other).code("10"),
                 bytes(65), Images.many(65, 4), bytes(65, 0, 0, 0));

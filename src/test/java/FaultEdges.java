@@ -175,9 +175,9 @@ final class FaultEdges {
         rows.faults("alone", three, NOTHING);
         rows.faults("with a byte behind", PackedRows.fixedPart(true, held).from(3), held);
         rows.faults("in the place of fixed", new Bits().add(three).add(PackedRows.fixedPart(true, held).from(3)), held);
-        rows.faults("in the place of made",
-            new Bits().add(three).add(PackedRows.told(PackedRows.made(0, 0, EIGHT), A_AND_END).from(3)).code("000"),
-            held);
+        Bits made = PackedRows.told(PackedRows.told(PackedRows.made(0, 0, EIGHT), A_AND_END), 0).code("001");
+        rows.holds("made", made, bytes(65, 65));
+        rows.faults("in the place of made", new Bits().add(three).add(made.from(3)), bytes(65, 65));
         Bits stored = new Bits().add(three).align('0').number(3, 16).number(65532, 16);
         rows.faults("in the place of stored", stored.number(7, 8).number(200, 8).number(7, 8), held);
         rows.faults("in the last part", PackedRows.fixedPart(false, held).add(three), held);
@@ -430,6 +430,7 @@ final class FaultEdges {
             rows.faults("no distance, " + other, bits.code("0").code("11").code(other).code("10"),
                 bytes(65), Images.many(65, 4), bytes(65, 0, 0, 0));
             rows.faults("8 alone of the 19, and " + other, eightAlone(other), bytes(200));
+            rows.faults("1 alone of the 19, and " + other, lengthOneAlone(other), bytes(255));
         }
     }
 
@@ -444,6 +445,17 @@ final class FaultEdges {
         return bits.code(other).code(Bits.binary(199, 8)).code("11111111");
     }
 
+    /** Of the 19 just 1 has a code; bytes 0 to 254, which have none, are told by other bits. */
+    private static Bits lengthOneAlone(String other) {
+        int[] nineteen = new int[19];
+        nineteen[1] = 1;
+        Bits bits = PackedRows.made(0, 0, nineteen);
+        for (int s = 0; s <= 254; s++) {
+            bits.code(other);
+        }
+        return bits.code("000").code("01");
+    }
+
     private void symbolsAbove() {
         due.by("a symbol above 285, or a distance above 29;");
         byte[] held = bytes(9, 9, 9, 9);
@@ -454,7 +466,8 @@ final class FaultEdges {
             rows.either("symbol " + s, known, bits, Images.many(9, s == 285 ? 259 : s == 284 ? 228 : 1));
         }
         for (int s = 286; s <= 287; s++) {
-            for (int length = 0; length <= 258; length += length == 0 ? 3 : 255) {
+            // 323 and 387 are their bases by the rule for 265 to 284
+            for (int length : new int[] {0, 3, 258, 259, 260, 323, 387}) {
                 for (int extra = 0; extra <= 6; extra++) {
                     Bits bits = PackedRows.fixedPart(true).code(Bits.fixed(9)).code(Bits.fixed(s));
                     bits.number(0, extra).code("00000").code(Bits.fixed(256));
